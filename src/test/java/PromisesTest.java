@@ -150,6 +150,12 @@ public final class PromisesTest {
         fault("hops 2;link 01;", -9, 14);
         fault("hops 2;link 0x 1;", -9, 13);
         fault("hops 2;Link 0 1;", -9, 7);
+        fault("hops 2;linkz 0 1;", -9, 7);
+        fault("hops 2;linka 0 1;", -9, 7);
+        fault("hops 2;link`0 1;", -9, 11);
+        fault("hops 2;link{0 1;", -9, 11);
+        fault("hops 2;link/0 1;", -9, 11);
+        fault("hops 2;link 0:1;", -9, 13);
         fault("hops 2;linK 0 1;", -9, 7);
         fault("hops 2;link -1 0;", -9, 12);
         fault("hops 2;\tlink 0 1;", -9, 7);
@@ -341,6 +347,9 @@ public final class PromisesTest {
     private static void set() {
         C.part("promise 9");
         PacketTrail t = new PacketTrail();
+        C.refused("base less than range", ARG, () -> t.set(1, 19));
+        C.due("base as range", t.set(1, 20), 101);
+        C.due("taken back", t.undo(), 0);
         C.due("mask", t.set(0, 31), 7);
         C.due("base", t.set(1, 997), 101);
         C.due("range", t.set(2, 997), 20);
@@ -351,7 +360,7 @@ public final class PromisesTest {
         for (int[] w : wrong) {
             C.refused("set(" + w[0] + ", " + w[1] + ")", ARG, () -> t.set(w[0], w[1]));
         }
-        C.due("refused", t.status(1), wrong.length);
+        C.due("refused", t.status(1), wrong.length + 1);
         t.set(2, 1);
         C.refused("base not above key", ARG, () -> t.set(1, 996));
         t.set(3, 1);
@@ -834,6 +843,13 @@ public final class PromisesTest {
         C.due("with three", t.leastLabels(), 8);
         t.set(3, 5);
         C.due("by another key", t.leastLabels(), 2);
+        t.forget();
+        t.set(3, 0);
+        for (int rest = 1; rest <= 40; rest++) {
+            t.send(0, 0, 0, rest + 64 * (2 * rest / 5 % 3), 0);
+        }
+        // Unlike modulo 64 alone.
+        C.due("the greatest", t.leastLabels(), 64);
     }
 
     private static void unlike() {
@@ -920,8 +936,12 @@ public final class PromisesTest {
         C.dueAll("by dest and size", new long[] {t.bestMask(0), t.bestMask(1)}, 10, 3);
         t.send(0, 2, 7, 6, 4);
         C.dueAll("life does not count", new long[] {t.bestMask(0), t.bestMask(1)}, 10, 3);
+        t.set(1, 997);
+        t.send(1, 2, 7, 6, 4);
+        t.send(0, 2, 9, 6, 4);
+        C.dueAll("by all", new long[] {t.bestMask(0), t.bestMask(1)}, 15, 5);
         t.set(1, 2);
-        C.dueAll("modulo 2", new long[] {t.bestMask(0), t.bestMask(1)}, 2, 2);
+        C.dueAll("modulo 2", new long[] {t.bestMask(0), t.bestMask(1)}, 1, 2);
         C.due("the mask stays", t.told(3), 16);
         C.refused("what", ARG, () -> t.bestMask(2));
         C.refused("what", ARG, () -> t.bestMask(-1));
