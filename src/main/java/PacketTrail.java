@@ -882,8 +882,10 @@ public final class PacketTrail {
         }
 
         void add(int mix, int weight) {
-            weights[mix] += weight;
-            total += weight;
+            if (mix >= 0 && mix < base) {
+                weights[mix] += weight;
+                total += weight;
+            }
         }
 
         long chosenBy(int key) {
@@ -919,6 +921,7 @@ public final class PacketTrail {
     private static final class Joiner {
         private static final int END = -1;
         private static final int NO_MOVE = -9;
+        private static final int MOST_TURNS = 2 * MOST_STEPS + 2;
 
         /** Reports left: by the hop at which they entered, by the link by which they came. */
         final int[] entered = new int[MOST_HOPS];
@@ -988,7 +991,7 @@ public final class PacketTrail {
             openWalk(0, NONE);
             int depth = 0;
             // Each turn makes a step or takes one back.
-            for (int turn = 0; turn <= 2 * MOST_STEPS + 2 && depth >= 0; turn++) {
+            for (int turn = 0; turn <= MOST_TURNS && depth >= 0 && depth < MOST_REPORTS; turn++) {
                 int move = nextMove(net, depth);
                 if (move == NO_MOVE) {
                     depth--;
@@ -1019,6 +1022,9 @@ public final class PacketTrail {
 
         /** Made ready so that the next move is the least one that the guide leaves. */
         private void stand(int depth, int hop, int begin, int guide) {
+            if (depth >= MOST_REPORTS) {
+                return;
+            }
             at[depth] = hop;
             begins[depth] = begin;
             guides[depth] = guide;
@@ -1076,7 +1082,7 @@ public final class PacketTrail {
         private void keepSet(int length) {
             for (int i = 0; i < length; i++) {
                 firstMoves[i] = moves[i];
-                if (moves[i] == END) {
+                if (moves[i] == END && walks < MOST_PACKETS) {
                     walkBegins[walks] = begins[i];
                     walkHops[walks] = at[begins[i]];
                     walkLengths[walks] = i - begins[i];
