@@ -1,6 +1,7 @@
 import java.io.IOException;
 import java.nio.file.Files;
 import java.nio.file.Path;
+import java.util.List;
 import java.util.Set;
 import java.util.TreeSet;
 import java.util.regex.Matcher;
@@ -26,26 +27,39 @@ public final class ReadmeTest {
         String due = block(readme, "text");
         C.due("what it prints is told", due.isBlank() ? 0 : 1, 1);
         Path directory = Files.createTempDirectory("readme");
-        Path program = directory.resolve("Example.java");
         try {
+            Path program = directory.resolve("Example.java");
             Files.writeString(program, block(readme, "java"));
-            String printed = run(program);
+            String out = directory.resolve("out").toString();
+            printedBy("javac", "-d", out, "src/main/java/PacketTrail.java", program.toString());
+            String printed = printedBy("java", "-cp", out, "Example");
             if (!printed.equals(due)) {
                 C.complain("it printed\n" + printed + "and due is\n" + due);
             }
         } finally {
-            Files.deleteIfExists(program);
-            Files.deleteIfExists(directory);
+            delete(directory);
         }
     }
 
-    private static String run(Path program) throws IOException, InterruptedException {
-        String java = Path.of(System.getProperty("java.home"), "bin", "java").toString();
-        Process process = new ProcessBuilder(java, "-cp", System.getProperty("java.class.path"), program.toString())
-            .redirectErrorStream(true).start();
-        String printed = new String(process.getInputStream().readAllBytes()).replace("\r\n", "\n");
-        C.due("it ends with", process.waitFor(), 0);
+    /** What a command prints; its errors stay apart, as a machine may tell of its settings there. */
+    private static String printedBy(String... command) throws IOException, InterruptedException {
+        Process process = new ProcessBuilder(command).redirectError(ProcessBuilder.Redirect.INHERIT).start();
+        String printed = new String(process.getInputStream().readAllBytes()).replace(System.lineSeparator(), "\n");
+        C.due(command[0] + " ends with", process.waitFor(), 0);
         return printed;
+    }
+
+    private static void delete(Path path) throws IOException {
+        if (Files.isDirectory(path)) {
+            List<Path> inside;
+            try (Stream<Path> files = Files.list(path)) {
+                inside = files.toList();
+            }
+            for (Path file : inside) {
+                delete(file);
+            }
+        }
+        Files.delete(path);
     }
 
     /** The first block of this language. */
